@@ -376,21 +376,6 @@ public final class SharedPockets {
         return tally(what);
     }
 
-    private int tally(int what) {
-        switch (what) {
-            case 0: return family.things;
-            case 1: return family.cousins;
-            case 2: return thingText.length;
-            case 3: return cousinText.length;
-            case 4: return told.hands;
-            case 5: return Integer.bitCount(hours.worked);
-            case 6: return told.holes;
-            case 7: return told.felts;
-            case 8: return finding;
-            default: return BAD;
-        }
-    }
-
     public long digest() {
         refresh();
         long h = 17;
@@ -418,6 +403,21 @@ public final class SharedPockets {
         h = 31 * h + plans.sorted.told(NONE);
         h = 31 * h + plans.sorted.told(0);
         return 31 * h + hours.dayBySeed(7, 12, NONE);
+    }
+
+    private int tally(int what) {
+        switch (what) {
+            case 0: return family.things;
+            case 1: return family.cousins;
+            case 2: return thingText.length;
+            case 3: return cousinText.length;
+            case 4: return told.hands;
+            case 5: return Integer.bitCount(hours.worked);
+            case 6: return told.holes;
+            case 7: return told.felts;
+            case 8: return finding;
+            default: return BAD;
+        }
     }
 
     private long foldThingHours(long before, int thing) {
@@ -593,17 +593,21 @@ public final class SharedPockets {
         int honest;
         /** THINGS that are soup, as bits. */
         int soup;
+        /** SIZES of all THINGS. */
+        int bulk;
         /** THINGS of a SIZE or less, as bits. */
         final int[] upTo = new int[10];
 
         void learnThings(Text text) {
             things = Math.min(text.items(), MOST);
             soup = 0;
+            bulk = 0;
             Arrays.fill(upTo, 0);
             for (int t = 0; t < things; t++) {
                 size[t] = text.sign(t, 0) + 1;
                 owner[t] = text.sign(t, 1);
                 kind[t] = text.sign(t, 2);
+                bulk += size[t];
                 if (kind[t] == 1) {
                     soup |= 1 << t;
                 }
@@ -942,20 +946,19 @@ public final class SharedPockets {
 
         /** The chance that a frog never jumps: above (what = 0) or below (1). */
         long stayChance(int c, int thing, int hour, int what) {
-            int times = 0;
-            for (int h = 0; h <= hour && family.kind[thing] == FROG; h++) {
-                times += behind[h].inside >> thing & 1;
-            }
             int above = 16 - c;
             int below = 16;
-            while (below > 1 && above % 2 == 0) {
+            for (int k = 0; k < 4 && above % 2 == 0; k++) {
                 above /= 2;
                 below /= 2;
             }
             int base = what == 0 ? above : below;
+            boolean frog = family.kind[thing] == FROG;
             long power = 1;
-            for (int k = 0; k < times; k++) {
-                power *= base;
+            for (int h = 0; h <= hour; h++) {
+                if (frog && (behind[h].inside >> thing & 1) != 0) {
+                    power *= base;
+                }
             }
             return power;
         }
@@ -1067,7 +1070,7 @@ public final class SharedPockets {
             }
             for (int one = 0; one < HAND_NUMBERS && lent.many == NONE; one++) {
                 trials[0].become(ahead);
-                if (hours.reach(trials[0], one)) {
+                if (matters(one, thing) && hours.reach(trials[0], one)) {
                     last = leastHand(cousin, thing, hour, to);
                     if (last != NONE) {
                         lent.plan(2, one, last);
@@ -1084,7 +1087,7 @@ public final class SharedPockets {
             State s = trials[1];
             s.become(trials[0]);
             for (int number = 0; number < HAND_NUMBERS; number++) {
-                if (hours.reach(s, number)) {
+                if (matters(number, thing) && hours.reach(s, number)) {
                     hours.goOn(s, hour, to);
                     if (s.placeOf(thing) == cousin) {
                         return number;
@@ -1093,6 +1096,11 @@ public final class SharedPockets {
                 }
             }
             return NONE;
+        }
+
+        /** Where all THINGS have room together none is in another's way: only HANDS on the THING itself matter. */
+        private boolean matters(int number, int thing) {
+            return family.bulk > told.room || (number & 7) == thing;
         }
 
         void planSort(int bound) {

@@ -176,6 +176,10 @@ final class Oracle {
 
     /** All HOURS by these HANDS (in the order that they are told) and these HOURS of the AUNT's. */
     private Way way(List<Hand> told, int auntHours) {
+        return wayTo(23, told, auntHours);
+    }
+
+    private Way wayTo(int last, List<Hand> told, int auntHours) {
         List<Thing> things = things();
         List<Cousin> cousins = cousins();
         int n = things.size();
@@ -185,7 +189,7 @@ final class Oracle {
         for (int t = 0; t < n; t++) place[t] = things.get(t).owner < m ? things.get(t).owner : 9;
         boolean[][] tookAhead = new boolean[8][8];
         boolean[][] soupThen = new boolean[24][n];
-        for (int h = 0; h < 24; h++) {
+        for (int h = 0; h <= last; h++) {
             boolean[][] took = new boolean[8][8];
             for (int c = 0; c < m; c++) {
                 for (int t = 0; t < n; t++) {
@@ -299,7 +303,7 @@ final class Oracle {
             if (!isCousin(c) || !isThing(t)) return false;
             more.add(new Hand(hour, c, t, number >> 6));
         }
-        return way(more, aunt).places[behind][thing] == cousin;
+        return wayTo(behind, more, aunt).places[behind][thing] == cousin;
     }
 
     private List<Integer> lendRow(int cousin, int thing, int hour, int behind) {
@@ -338,7 +342,7 @@ final class Oracle {
         int[] first = asTold().places[hour];
         for (List<Hand> order : all) {
             order.addAll(others);
-            int[] places = way(order, aunt).places[hour];
+            int[] places = wayTo(hour, order, aunt).places[hour];
             for (int t = 0; t < first.length; t++) if (places[t] != first[t]) bits |= 1 << t;
         }
         return bits;

@@ -1,0 +1,215 @@
+/** Promises 21 to 23: LEND, HANGS, SORT. */
+public final class PlansTest {
+    public static void main(String[] args) {
+        promise21Fewest();
+        promise21LeastRow();
+        promise21Hours();
+        promise21Room();
+        promise21Full();
+        promise21Wrong();
+        promise22();
+        promise22Five();
+        promise22WholeHour();
+        promise23();
+        promise23Told();
+        promise23Wrong();
+        Due.end();
+    }
+
+    /** LEND whole: how many, the first, the second. */
+    private static void lend(SharedPockets x, String args, int many, int one, int two) {
+        String[] a = args.split(" ");
+        int cousin = Integer.parseInt(a[0]);
+        int thing = Integer.parseInt(a[1]);
+        int hour = Integer.parseInt(a[2]);
+        int behind = Integer.parseInt(a[3]);
+        Due.is("21: lend(" + args + ", NONE)", x.lend(cousin, thing, hour, behind, -1), many);
+        Due.is("21: lend(" + args + ", 0)", x.lend(cousin, thing, hour, behind, 0), one);
+        Due.is("21: lend(" + args + ", 1)", x.lend(cousin, thing, hour, behind, 1), two);
+    }
+
+    private static void promise21Fewest() {
+        SharedPockets x = Due.with("50o;30o", "o.;o.;o.");
+        lend(x, "0 0 3 3", 0, -1, -1);
+        lend(x, "1 0 3 3", 2, 0, 64 + 8);
+        lend(x, "2 1 3 9", 2, 1, 64 + 16 + 1);
+        Due.hands(x, "2p00");
+        lend(x, "0 0 1 1", 0, -1, -1);
+        lend(x, "0 0 3 3", 1, 64, -1);
+        lend(x, "1 0 3 3", 1, 64 + 8, -1);
+        lend(x, "1 0 2 2", 1, 64 + 8, -1);
+        lend(x, "1 0 1 1", 2, 0, 64 + 8);
+        x.hole(2, 9);
+        lend(x, "1 0 3 3", -1, -1, -1);
+        lend(x, "1 0 2 9", 1, 64 + 8, -1);
+    }
+
+    /** Of plans that are like, the one whose numbers are least: PUTS ahead of TAKES, then by COUSIN, then by THING. */
+    private static void promise21LeastRow() {
+        SharedPockets x = Due.with("90o;91o", "o.;o.;o.");
+        x.room(9);
+        Due.hands(x, "1p11 5p00 6t20");
+        lend(x, "2 0 3 6", 1, 64 + 1, -1);
+        SharedPockets y = Due.with("90o;91o;92o", "o.;o.;o.");
+        y.room(9);
+        Due.hands(y, "1p11 5p00 6t20");
+        lend(y, "2 0 3 6", 1, 64 + 1, -1);
+        SharedPockets z = Due.with("50o;51o", "o.;o.;o.");
+        z.room(9);
+        Due.hands(z, "1p11 5p00 6t20");
+        lend(z, "2 0 3 4", -1, -1, -1);
+        lend(z, "2 0 3 6", 1, 64 + 1, -1);
+        lend(z, "1 0 3 6", -1, -1, -1);
+        lend(z, "1 0 5 6", -1, -1, -1);
+        lend(z, "2 0 6 6", -1, -1, -1);
+    }
+
+    private static void promise21Hours() {
+        SharedPockets x = Due.with("50o", "o.;h.");
+        lend(x, "1 0 3 3", 2, 0, 64 + 8);
+        lend(x, "1 0 3 4", -1, -1, -1);
+        lend(x, "1 0 4 3", -1, -1, -1);
+        lend(x, "0 0 4 3", 0, -1, -1);
+        lend(x, "1 0 23 23", 2, 0, 64 + 8);
+        lend(x, "1 0 0 0", 2, 0, 64 + 8);
+        Due.hands(x, "7t10");
+        lend(x, "1 0 5 7", 1, 0, -1);
+        SharedPockets y = Due.with("55o;30o", "o.;o.");
+        lend(y, "1 0 3 3", -1, -1, -1);
+        lend(y, "1 1 3 3", 2, 1, 64 + 8 + 1);
+    }
+
+    /** Another THING may have to come out first. */
+    private static void promise21Room() {
+        SharedPockets x = Due.with("90o;91o", "o.;o.");
+        x.room(10);
+        Due.hands(x, "1p11");
+        lend(x, "1 0 0 0", 2, 0, 64 + 8);
+        lend(x, "1 0 2 2", -1, -1, -1);
+        Due.hands(x, "3t10");
+        lend(x, "1 0 2 3", 2, 64 + 1, 0);
+        lend(x, "1 0 2 2", -1, -1, -1);
+    }
+
+    /** Twenty HANDS that are told leave LEND as it is. */
+    private static void promise21Full() {
+        SharedPockets x = Due.with("50o", "o.;o.");
+        for (int k = 0; k < 20; k++) {
+            x.hand(9, 7, 7, 1);
+        }
+        Due.is("21: hand, full", x.hand(9, 0, 0, 0), -4);
+        lend(x, "1 0 3 3", 2, 0, 64 + 8);
+        lend(x, "1 0 9 9", 2, 0, 64 + 8);
+        Due.is("21: count(4)", x.count(4), 20);
+    }
+
+    private static void promise21Wrong() {
+        SharedPockets x = Due.with("50o", "o.;o.");
+        int[][] bad = {{-1, 0, 0, 0, 0}, {2, 0, 0, 0, 0}, {0, -1, 0, 0, 0}, {0, 1, 0, 0, 0}, {0, 0, -1, 0, 0}, {0, 0, 24, 0, 0},
+            {0, 0, 0, -1, 0}, {0, 0, 0, 24, 0}, {0, 0, 0, 0, -2}, {0, 0, 0, 0, 2}};
+        for (int[] b : bad) {
+            Due.is("21: a wrong lend", x.lend(b[0], b[1], b[2], b[3], b[4]), -2);
+        }
+        Due.is("21: lend of nothing", new SharedPockets().lend(0, 0, 0, 0, -1), -2);
+    }
+
+    private static void promise22() {
+        SharedPockets x = Due.with("50o;40o;61o", "o.;o.;o.");
+        Due.is("22: hangs(0) of no hands", x.hangs(0), 0);
+        Due.hands(x, "0p00 1t10");
+        Due.is("22: hangs(1) of one hand", x.hangs(1), 0);
+        Due.hands(x, "1t20");
+        Due.is("22: hangs(1), who is first has it", x.hangs(1), 0b001);
+        Due.hands(x, "2p01 2p12");
+        Due.is("22: hangs(2), both have room", x.hangs(2), 0);
+        x.room(9);
+        Due.is("22: hangs(2), one has room", x.hangs(2), 0b110);
+        x.room(20);
+        Due.hands(x, "3t01 3p01");
+        Due.is("22: hangs(3), in or out", x.hangs(3), 0b010);
+        Due.is("22: hangs(-1)", x.hangs(-1), -2);
+        Due.is("22: hangs(24)", x.hangs(24), -2);
+        Due.is("22: hangs(23)", x.hangs(23), 0);
+        Due.is("22: hangs(0) of nothing", new SharedPockets().hangs(0), 0);
+    }
+
+    /** The sixth HAND is not among those that change places, the fifth is. */
+    private static void promise22Five() {
+        SharedPockets x = Due.with("50o", "o.;o.;o.");
+        Due.hands(x, "0p00 1t77 1t77 1t77 1t10 1t77 1t20");
+        Due.is("22: hangs(1), the second taker is the sixth", x.hangs(1), 0);
+        SharedPockets y = Due.with("50o", "o.;o.;o.");
+        Due.hands(y, "0p00 1t77 1t77 1t77 1t10 1t20 1t77");
+        Due.is("22: hangs(1), the second taker is the fifth", y.hangs(1), 1);
+        SharedPockets z = Due.with("50o", "o.;o.;o.");
+        Due.hands(z, "0p00 1t77 1t10 1p10 1t77 1t77 1t20");
+        Due.is("22: hangs(1), the others come behind the five", z.hangs(1), 1);
+    }
+
+    /** Behind the HOUR: with those who are honest ahead of its HANDS, and HOLES and the AUNT behind them. */
+    private static void promise22WholeHour() {
+        SharedPockets x = Due.with("50o;40o", "o.;o.;o.");
+        Due.hands(x, "0p00 1t00 1p00");
+        Due.is("22: hangs(1)", x.hangs(1), 1);
+        x.aunt(0b10);
+        Due.is("22: hangs(1), the aunt brings it home", x.hangs(1), 0);
+        x.aunt(0);
+        x.hole(1, 9);
+        Due.is("22: hangs(1), home or lost", x.hangs(1), 1);
+        SharedPockets y = Due.with("50o", "o.;h.;o.");
+        Due.hands(y, "0p00 1t10 2t00 2t20");
+        Due.is("22: hangs(2), put back ahead of both", y.hangs(2), 1);
+        SharedPockets z = Due.with("50s", "o.");
+        Due.hands(z, "0p00 2t00 2p00");
+        Due.is("22: hangs(2), soup", z.hangs(2), 1);
+    }
+
+    private static void sort(SharedPockets x, int bound, int many, int one, int two) {
+        Due.is("23: sort(" + bound + ", NONE)", x.sort(bound, -1), many);
+        Due.is("23: sort(" + bound + ", 0)", x.sort(bound, 0), one);
+        Due.is("23: sort(" + bound + ", 1)", x.sort(bound, 1), two);
+    }
+
+    private static void promise23() {
+        SharedPockets x = Due.with("50o;40o;30o;20o", "o.");
+        sort(x, 0, 0, -1, -1);
+        Due.hands(x, "2p00");
+        sort(x, 5, 0, -1, -1);
+        sort(x, 4, 1, 2, -1);
+        Due.hands(x, "4p01");
+        sort(x, 9, 0, -1, -1);
+        sort(x, 5, 1, 2, -1);
+        sort(x, 4, 1, 2, -1);
+        sort(x, 3, 2, 2, 4);
+        Due.hands(x, "6p02");
+        sort(x, 9, 1, 2, -1);
+        sort(x, 5, 1, 4, -1);
+        sort(x, 4, 2, 2, 4);
+        sort(x, 2, -1, -1, -1);
+        sort(x, 72, 0, -1, -1);
+        Due.hands(x, "23p03");
+        sort(x, 13, 1, 2, -1);
+        sort(x, 9, 1, 2, -1);
+        sort(x, 8, 1, 4, -1);
+        sort(x, 0, -1, -1, -1);
+    }
+
+    /** In place of the HOURS that are told, which stay as they are. */
+    private static void promise23Told() {
+        SharedPockets x = Due.with("50o;40o", "o.");
+        x.aunt(1 << 2);
+        Due.hands(x, "2p00 23p01");
+        Due.is("23: load(2), as told", x.load(2), 0);
+        sort(x, 4, 1, 2, -1);
+        sort(x, 0, 2, 2, 23);
+        Due.is("23: aunt(0), as told still", x.aunt(0), 1 << 2);
+    }
+
+    private static void promise23Wrong() {
+        SharedPockets x = Due.with("50o", "o.");
+        Due.is("23: sort(-1, 0)", x.sort(-1, 0), -2);
+        Due.is("23: sort(73, 0)", x.sort(73, 0), -2);
+        Due.is("23: sort(0, -2)", x.sort(0, -2), -2);
+        Due.is("23: sort(0, 2)", x.sort(0, 2), -2);
+    }
+}
