@@ -6,6 +6,10 @@ public final class DigestTest {
         alike("nothing", new SharedPockets());
         alike("things alone", Due.with("50f;31s", ""));
         alike("cousins alone", Due.with("", "h.;o1"));
+        alike("one of each", Due.with("52f", "h0"));
+        SharedPockets one = Due.with("50f", "h0");
+        Due.hands(one, "0p00 2t00");
+        alike("one of each, with hands", one);
         alike("a fault", Due.with("50f;31", "h.;o1"));
         SharedPockets x = Due.with("50f;31s;92o;17f;40f", "h1;o0;h.;o7");
         alike("a family", x);
@@ -23,6 +27,9 @@ public final class DigestTest {
         x.back(0);
         x.forget();
         alike("undone", x);
+        SharedPockets asked = Due.with("52f", "h0");
+        asked.count(0);
+        Due.is("38: digest() as the first question", Due.with("52f", "h0").digest(), asked.digest());
         Due.is("38: digest() of nothing", new SharedPockets().digest(), ofNothing());
         Due.end();
     }

@@ -7,9 +7,11 @@ public final class FeltTest {
         promise24And25();
         promise26();
         promise26EveryFelt();
+        promise26WholeHours();
         promise26And28Wrong();
         promise27();
         promise28();
+        promise28Edges();
         promise29();
         promise29Wrong();
         promise30();
@@ -79,6 +81,66 @@ public final class FeltTest {
         Due.is("26: when(1, 0), with twenty hands", x.when(1, 0), ALL_HOURS & ~0b111111);
     }
 
+    /** Behind the one HAND more the HOURS go on with HOLES, soup and the AUNT. */
+    private static void promise26WholeHours() {
+        SharedPockets x = Due.with("50s;30o", "o.;o.");
+        Due.hands(x, "2p00 4p10 0p01");
+        x.hole(6, 3);
+        x.felt(4, 0, 1);
+        // soup spills in hour 4, but for cousin 1 who takes it in hour 2 or 3 and puts it in as told
+        Due.is("26: when(1, 0), soup", x.when(1, 0), 0b1100);
+        Due.is("26: when(0, 0), soup", x.when(0, 0), 0);
+        x.forget();
+        x.felt(6, 1, 1);
+        Due.is("26: when(1, 1), a hole", x.when(1, 1), 0);
+        x.forget();
+        x.felt(5, 1, 1);
+        Due.is("26: when(1, 1), ahead of the hole", x.when(1, 1), ALL_HOURS & ~0b111111);
+        SharedPockets y = Due.with("50o", "o.;o.");
+        Due.hands(y, "2p00 6p00");
+        y.aunt(1 << 4);
+        y.felt(6, 0, 0);
+        // in hours 2, 3 it is taken from her; in hour 4 too; in hour 6 when it is in again
+        Due.is("26: when(1, 0), the aunt", y.when(1, 0), 0b1011100);
+        SharedPockets again = Due.with("50o", "o.;o.");
+        Due.hands(again, "0p00 4p10");
+        again.hole(5, 9);
+        again.felt(6, 0, 1);
+        Due.is("26: when(1, 0), put in again ahead of a hole", again.when(1, 0), 0);
+        SharedPockets z = Due.with("50o", "o.;o.");
+        Due.hands(z, "0p00");
+        z.felt(0, 0, 0);
+        Due.is("26: when(1, 0), the first hour", z.when(1, 0), 1);
+        z.forget();
+        z.felt(0, 0, 1);
+        Due.is("26: when(1, 0), any but the first hour", z.when(1, 0), ALL_HOURS & ~1);
+        z.forget();
+        z.felt(23, 0, 1);
+        Due.is("26: when(1, 0), none", z.when(1, 0), 0);
+    }
+
+    private static void promise28Edges() {
+        SharedPockets x = Due.with("50o", "o.;o.");
+        Due.hands(x, "0p00");
+        x.felt(1, 0, 0);
+        Due.is("28: when(1, 0)", x.when(1, 0), 0b11);
+        Due.is("28: feel(1, 0), the first hour", x.feel(1, 0), 0);
+        x.forget();
+        x.felt(2, 0, 0);
+        Due.is("28: feel(1, 0), one and two behind it, two and one behind the next", x.feel(1, 0), 0);
+        x.felt(0, 0, 1);
+        Due.is("28: when(1, 0)", x.when(1, 0), 0b110);
+        Due.is("28: feel(1, 0), the second hour", x.feel(1, 0), 1);
+        x.forget();
+        x.felt(21, 0, 1);
+        x.felt(23, 0, 0);
+        Due.is("28: feel(1, 0), a late hour", x.feel(1, 0), 22);
+        x.hand(3, 0, 0, 1);
+        Due.is("28: feel(1, 0), none fits now", x.feel(1, 0), 0);
+        x.back(0);
+        Due.is("28: feel(1, 0), undone", x.feel(1, 0), 22);
+    }
+
     private static void promise26And28Wrong() {
         SharedPockets x = Due.with("50o", "o.");
         int[][] bad = {{-1, 0}, {1, 0}, {0, -1}, {0, 1}};
@@ -145,6 +207,7 @@ public final class FeltTest {
         Due.hands(y, "0p00");
         jumps(y, 1, 0, 12, 1946195068359375L, 1L << 52);
         jumps(y, 15, 0, 12, 1, 1L << 52);
+        jumps(y, 4, 0, 0, 3, 4);
         y.aunt(0b100);
         jumps(y, 8, 0, 12, 1, 4);
     }
@@ -170,6 +233,10 @@ public final class FeltTest {
             boolean puts = lots[0] % 2 == 0 && lots[2] % 2 == 0;
             Due.is("30: day(" + seed + ", 0, 0)", x.day(seed, 0, 0), puts ? 8 : 0);
             Due.is("30: day(" + seed + ", 0, NONE)", x.day(seed, 0, -1), puts ? 1 : 0);
+        }
+        SharedPockets one = Due.with("50o", "o.");
+        for (int seed = 0; seed < 20; seed++) {
+            Due.is("30: one cousin, day(" + seed + ", 0, 0)", one.day(seed, 0, 0), upperBits(seed, 3)[2] % 2 == 0 ? 8 : 0);
         }
         Due.is("30: no cousins", Due.with("50o", "").day(3, 23, -1), 0);
         Due.is("30: no cousins", Due.with("50o", "").day(3, 23, 0), 9);

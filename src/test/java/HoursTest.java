@@ -48,6 +48,12 @@ public final class HoursTest {
         for (int k = 0; k < works.length; k++) {
             Due.is("18: works(" + k + ")", x.works(k), works[k]);
         }
+        SharedPockets none = Due.with("50o;60o", "o.;o.");
+        Due.hands(none, "0p02 0p20 0t02 1p00 2t20");
+        Due.is("18: works(0), the thing behind the last", none.works(0), 0);
+        Due.is("18: works(1), the cousin behind the last", none.works(1), 0);
+        Due.is("18: works(4), the cousin behind the last", none.works(4), 0);
+        Due.is("16: load(0)", none.load(0), 0);
         SharedPockets y = Due.with("50o", "o.;o.");
         Due.hands(y, "1t10 0p00");
         where(y, "by HOURS, not as told", 1, 0, 1);
@@ -109,6 +115,11 @@ public final class HoursTest {
         y.aunt(1 << 2 | 1 << 3);
         where(y, "taken ahead of the aunt", 2, 0, 1);
         where(y, "she leaves what is not in the pocket", 3, 1, 0);
+        SharedPockets small = Due.with("10o", "o.");
+        Due.hands(small, "0p00");
+        small.hole(4, 1);
+        where(small, "an hour without a hole", 3, 0, 8);
+        where(small, "the hour with a hole", 4, 0, 9);
         SharedPockets z = Due.with("50o", "o.;o.;o.");
         Due.hands(z, "0p00 1t20 2p20");
         z.aunt(1 << 2);
@@ -188,6 +199,7 @@ public final class HoursTest {
         Due.is("17: happy(3)", x.happy(3), 0b0010);
         Due.is("17: happy(-1)", x.happy(-1), -2);
         Due.is("17: happy(24)", x.happy(24), -2);
+        Due.is("17: happy(0), it wants the thing behind the last", Due.with("50o", "o1;o.").happy(0), 0);
         SharedPockets eight = Due.with("17o", "o.;o.;o.;o.;o.;o.;o.;o0");
         Due.is("17: happy(0) of the eighth", eight.happy(0), 128);
     }
@@ -220,6 +232,10 @@ public final class HoursTest {
         Due.is("20: went(3), in the last hour", x.went(3), 23);
         x.back(1);
         Due.is("20: went(3), never", x.went(3), -1);
+        SharedPockets y = Due.with("10o", "o.");
+        Due.hands(y, "0p00");
+        y.hole(0, 1);
+        Due.is("20: went(0), in the first hour", y.went(0), 0);
         Due.is("20: went(4)", x.went(4), -2);
         Due.is("20: went(-1)", x.went(-1), -2);
     }

@@ -6,12 +6,16 @@ public final class PlansTest {
         promise21Hours();
         promise21Room();
         promise21Full();
+        promise21WholeHours();
+        promise21Anew();
         promise21Wrong();
         promise22();
         promise22Five();
         promise22WholeHour();
+        promise22EveryOrder();
         promise23();
         promise23Told();
+        promise23Edges();
         promise23Wrong();
         Due.end();
     }
@@ -89,6 +93,57 @@ public final class PlansTest {
         Due.hands(x, "3t10");
         lend(x, "1 0 2 3", 2, 64 + 1, 0);
         lend(x, "1 0 2 2", -1, -1, -1);
+        // a first hand that works and leads nowhere, cousin 0 with thing 2, leaves the next ones as they are
+        SharedPockets y = Due.with("90o;51o;40o", "o.;o.");
+        y.room(9);
+        Due.hands(y, "1p11 3t10");
+        lend(y, "1 0 2 3", 2, 64 + 1, 0);
+    }
+
+    /** Between its HANDS and the HOUR asked for there are HOLES, soup, the AUNT and those who are honest. */
+    private static void promise21WholeHours() {
+        SharedPockets x = Due.with("50s", "o.;o.");
+        Due.hands(x, "5t10");
+        lend(x, "1 0 4 5", 1, 0, -1);
+        lend(x, "1 0 3 5", 1, 0, -1);
+        lend(x, "1 0 2 5", 2, 0, 64 + 8);
+        x.hole(3, 9);
+        lend(x, "1 0 4 5", 1, 0, -1);
+        lend(x, "1 0 3 5", 2, 0, 64 + 8);
+        x.back(1);
+        x.hole(4, 9);
+        lend(x, "1 0 3 5", 2, 0, 64 + 8);
+        x.back(1);
+        x.aunt(1 << 3);
+        lend(x, "1 0 3 5", 2, 0, 64 + 8);
+        lend(x, "1 0 4 5", 1, 0, -1);
+        SharedPockets y = Due.with("50o;60o", "o.;h.;o.");
+        y.room(6);
+        Due.hands(y, "0p00 1t10 2p01");
+        // cousin 1 took thing 0 in hour 1 and puts it back in hour 2, but for thing 1 in its place
+        lend(y, "1 0 1 2", 1, 1, -1);
+    }
+
+    /** What was told between two like questions counts. */
+    private static void promise21Anew() {
+        SharedPockets x = Due.with("50o", "o.;o.");
+        Due.is("21: lend(1, 0, 3, 3, NONE)", x.lend(1, 0, 3, 3, -1), 2);
+        x.hand(2, 0, 0, 0);
+        Due.is("21: lend(1, 0, 3, 3, NONE), it is in now", x.lend(1, 0, 3, 3, -1), 1);
+        x.hole(2, 5);
+        Due.is("21: lend(1, 0, 3, 3, NONE), it is lost now", x.lend(1, 0, 3, 3, -1), -1);
+        Due.is("23: sort(0, NONE)", x.sort(0, -1), 0);
+        x.back(1);
+        Due.is("23: sort(0, NONE), no hole now", x.sort(0, -1), 1);
+        SharedPockets y = Due.with("50o;60o", "o.");
+        Due.is("21: lend(0, 0, 0, 0, NONE), the very first", y.lend(0, 0, 0, 0, -1), 0);
+        Due.hands(y, "0p00 1p01");
+        y.room(11);
+        Due.is("23: sort(0, NONE), the very first", y.sort(0, -1), 2);
+        y.wipe(0);
+        Due.type(y, 0, "60o");
+        Due.is("21: lend(0, 0, 0, 0, NONE), another text", y.lend(0, 0, 0, 0, -1), 1);
+        Due.is("23: sort(0, NONE), another text", y.sort(0, -1), 1);
     }
 
     /** Twenty HANDS that are told leave LEND as it is. */
@@ -159,9 +214,22 @@ public final class PlansTest {
         SharedPockets y = Due.with("50o", "o.;h.;o.");
         Due.hands(y, "0p00 1t10 2t00 2t20");
         Due.is("22: hangs(2), put back ahead of both", y.hangs(2), 1);
+        SharedPockets one = Due.with("50o", "o.;h.;o.");
+        Due.hands(one, "0p00 1t10 2t20");
+        Due.is("22: hangs(2), one hand alone", one.hangs(2), 0);
         SharedPockets z = Due.with("50s", "o.");
         Due.hands(z, "0p00 2t00 2p00");
         Due.is("22: hangs(2), soup", z.hangs(2), 1);
+    }
+
+    /** The told order and its mirror are alike, one between them is not. */
+    private static void promise22EveryOrder() {
+        SharedPockets x = Due.with("50o", "o.;o.;o.");
+        Due.hands(x, "0p00 1t10 1t20 1t10");
+        Due.is("22: hangs(1), the middle one first", x.hangs(1), 1);
+        SharedPockets y = Due.with("50o;67o", "o.;o.;o.");
+        Due.hands(y, "0p00 0p71 0t71");
+        Due.is("22: hangs(0), what is lost stays so", y.hangs(0), 0);
     }
 
     private static void sort(SharedPockets x, int bound, int many, int one, int two) {
@@ -203,6 +271,29 @@ public final class PlansTest {
         sort(x, 4, 1, 2, -1);
         sort(x, 0, 2, 2, 23);
         Due.is("23: aunt(0), as told still", x.aunt(0), 1 << 2);
+    }
+
+    private static void promise23Edges() {
+        SharedPockets x = Due.with("50o;40o;30o", "o.");
+        Due.hands(x, "0p00");
+        sort(x, 5, 0, -1, -1);
+        sort(x, 4, 1, 0, -1);
+        Due.hands(x, "1p01");
+        sort(x, 0, 2, 0, 1);
+        sort(x, 4, 1, 0, -1);
+        sort(x, 8, 1, 0, -1);
+        Due.hands(x, "2p02");
+        sort(x, 4, 2, 0, 1);
+        sort(x, 0, -1, -1, -1);
+        SharedPockets y = Due.with("50o;40o", "o.");
+        Due.hands(y, "22p00 23p01");
+        sort(y, 3, 2, 22, 23);
+        sort(y, 5, 1, 22, -1);
+        // sent home it is put in once more: the AUNT can make it worse
+        SharedPockets z = Due.with("90o", "o.;o.");
+        Due.hands(z, "1p00 2t10 4p00");
+        sort(z, 8, 2, 1, 4);
+        sort(z, 9, 0, -1, -1);
     }
 
     private static void promise23Wrong() {

@@ -59,6 +59,8 @@ public final class SheetsTest {
             Due.is("33: a wrong put", x.put(b[0], b[1], 0, 1), -2);
         }
         Due.is("33: put(0, 0, 0, 1) lost", x.put(0, 0, 0, 1), NULL);
+        x.sheet(0, 0, 0);
+        Due.is("33: put(0, 0, 0, 1), no items", x.put(0, 0, 0, 1), INDEX);
         x.sheet(0, 0, 3);
         Due.is("33: put(0, 1, 9, 1), CAST ahead of INDEX", x.put(0, 1, 9, 1), CAST);
         Due.is("33: count(8)", x.count(8), 3);
@@ -131,6 +133,10 @@ public final class SheetsTest {
         Due.is("35: copy(0, 5, 1, 3, 0)", x.copy(0, 5, 1, 3, 0), 1);
         items(x, "nothing copied", 1, 2, 11, 12, 13);
         Due.is("35: count(8)", x.count(8), 0);
+        x.sheet(2, 2, 0);
+        Due.is("35: copy(2, 0, 2, 0, 0)", x.copy(2, 0, 2, 0, 0), 1);
+        Due.is("35: copy(2, 0, 0, 0, 1)", x.copy(2, 0, 0, 0, 1), INDEX);
+        Due.is("35: copy(0, 0, 2, 0, 1)", x.copy(0, 0, 2, 0, 1), INDEX);
     }
 
     private static void promise35Wrong() {
@@ -191,7 +197,9 @@ public final class SheetsTest {
 
     private static void promise37() {
         SharedPockets x = Due.with("50o;30o", "o.;h.;o.");
+        Due.is("37: count(1), the very first", x.count(1), 3);
         Due.hands(x, "0p00 0p10 1t10 5t01");
+        Due.is("37: count(5)", x.count(5), 2);
         x.hole(3, 2);
         x.felt(1, 1, 0);
         x.felt(1, 1, 0);

@@ -93,7 +93,13 @@ public final class TellingTest {
         x.hole(0, 9);
         Due.is("12: where(1, 0)", x.where(1, 0), 9);
         Due.is("12: back(1)", x.back(1), 0);
+        Due.is("12: back(1) none left", x.back(1), -3);
         Due.is("12: where(1, 0) no hole", x.where(1, 0), 1);
+        x.hole(5, 1);
+        x.hole(5, 2);
+        x.hole(5, 3);
+        Due.is("12: back(1) of three", x.back(1), 2);
+        Due.is("12: count(6)", x.count(6), 2);
         Due.is("12: back(0)", x.back(0), 1);
         Due.is("12: where(1, 0) no second hand", x.where(1, 0), 8);
         Due.is("12: back(0) again", x.back(0), 0);
@@ -109,10 +115,12 @@ public final class TellingTest {
         Due.is("13: read(2) lost", x.read(2), -11);
         Due.is("13: count(8)", x.count(8), 1);
         x.hand(0, 0, 0, 0);
+        Due.is("13: where(1, 0) before", x.where(1, 0), 8);
         fill(x, 2, 2, 1, 1, 0, 1, 2, 1, 0, 0, 3, 0, 0);
         Due.is("13: read(2), two whole ones and three items", x.read(2), 2);
         Due.is("13: count(4), behind the one told", x.count(4), 3);
         Due.is("13: where(0, 0)", x.where(0, 0), 8);
+        Due.is("13: where(3, 0)", x.where(3, 0), 8);
         Due.is("13: where(1, 0)", x.where(1, 0), 1);
         Due.is("13: where(2, 0)", x.where(2, 0), 8);
         Due.is("13: read(2) again", x.read(2), 2);

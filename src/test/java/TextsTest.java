@@ -12,6 +12,7 @@ public final class TextsTest {
         promise5Empties();
         promise6();
         promise7();
+        typedAnew();
         Due.end();
     }
 
@@ -164,6 +165,26 @@ public final class TextsTest {
         Due.is("6: thing(-1, 0)", x.thing(-1, 0), -2);
         Due.is("6: thing(0, 3)", x.thing(0, 3), -2);
         Due.is("6: thing(0, -1)", x.thing(0, -1), -2);
+    }
+
+    /** Nothing of an earlier text stays behind when another is typed. */
+    private static void typedAnew() {
+        SharedPockets x = Due.with("10s;20f", "h.;o.");
+        Due.hands(x, "0p00 1t10 4p00");
+        Due.is("3: where(23, 0), soup", x.where(23, 0), 1);
+        x.wipe(0);
+        Due.type(x, 0, "90o;95o");
+        x.wipe(1);
+        Due.type(x, 1, "o.;h.");
+        Due.is("3: where(2, 0), put back now", x.where(2, 0), 8);
+        x.hole(3, 1);
+        Due.is("3: where(23, 0), no soup and larger", x.where(23, 0), 8);
+        Due.is("3: cousin(0, 0)", x.cousin(0, 0), 0);
+        Due.is("3: cousin(1, 0)", x.cousin(1, 0), 1);
+        x.wipe(1);
+        Due.type(x, 1, "o.;o.");
+        Due.is("3: where(2, 0), nobody is honest", x.where(2, 0), 1);
+        Due.is("3: thing(1, 1)", x.thing(1, 1), 5);
     }
 
     private static void promise7() {
