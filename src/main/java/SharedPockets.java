@@ -18,6 +18,9 @@ public final class SharedPockets {
     private static final int MOST_ITEMS = 60;
     private static final int LAST_JUMP_HOUR = 12;
 
+    private static final int LEAST = 1 << 31;
+    private static final long LEAST_LONG = 1L << 63;
+
     private static final int NULL = 1, INDEX = 2, CAST = 3, STORE = 4, SIZE = 5;
 
     private final Text thingText;
@@ -269,7 +272,7 @@ public final class SharedPockets {
     public long jumps(int c, int thing, int hour, int what) {
         refresh();
         if (c < 0 || c > 16 || !isThing(thing) || hour < 0 || hour > LAST_JUMP_HOUR || !isBit(what)) {
-            return Long.MIN_VALUE - BAD;
+            return LEAST_LONG - BAD;
         }
         return hours.stayChance(c, thing, hour, what);
     }
@@ -325,13 +328,13 @@ public final class SharedPockets {
 
     public int get(int s, int form, int i) {
         if (!isSheet(s) || !isForm(form)) {
-            return Integer.MIN_VALUE;
+            return LEAST;
         }
         Sheet sheet = sheets[s];
         int wrong = sheet.refusal(form, i);
         if (wrong != 0) {
             finding = wrong;
-            return Integer.MIN_VALUE;
+            return LEAST;
         }
         return sheet.items[i];
     }
