@@ -43,6 +43,9 @@ public final class PlansTest {
         lend(x, "1 0 3 3", 1, 64 + 8, -1);
         lend(x, "1 0 2 2", 1, 64 + 8, -1);
         lend(x, "1 0 1 1", 2, 0, 64 + 8);
+        Due.hands(x, "5t10");
+        lend(x, "1 0 3 5", 0, -1, -1);
+        x.back(0);
         x.hole(2, 9);
         lend(x, "1 0 3 3", -1, -1, -1);
         lend(x, "1 0 2 9", 1, 64 + 8, -1);
