@@ -2,14 +2,20 @@
 final class Due {
     private static int calls = 0;
     private static int wrong = 0;
+    private static String words = "";
 
     private Due() { }
+
+    /** The words of the document to which the next answers are held. */
+    static void heldTo(String document) {
+        words = document;
+    }
 
     static void is(String call, long got, long want) {
         calls++;
         if (got != want) {
             wrong++;
-            System.out.println(call + " answered " + got + ", due is " + want);
+            System.out.println(words + call + " answered " + got + ", due is " + want);
         }
     }
 
@@ -18,6 +24,13 @@ final class Due {
         SharedPockets x = new SharedPockets();
         type(x, 0, things);
         type(x, 1, cousins);
+        return x;
+    }
+
+    /** An object with these THINGS and COUSINS, and HANDS as a text. */
+    static SharedPockets with(String things, String cousins, String hands) {
+        SharedPockets x = with(things, cousins);
+        hands(x, hands);
         return x;
     }
 
@@ -34,6 +47,14 @@ final class Due {
             int hour = Integer.parseInt(hand.substring(0, n - 3));
             int what = hand.charAt(n - 3) == 't' ? 1 : 0;
             x.hand(hour, hand.charAt(n - 2) - '0', hand.charAt(n - 1) - '0', what);
+        }
+    }
+
+    /** A SHEET of a FORM with these items. */
+    static void fill(SharedPockets x, int s, int form, int... items) {
+        x.sheet(s, form, items.length);
+        for (int i = 0; i < items.length; i++) {
+            x.put(s, form, i, items[i]);
         }
     }
 

@@ -270,7 +270,7 @@ public final class FeltTest {
         }
     }
 
-    private static int[] upperBits(int seed, int many) {
+    static int[] upperBits(int seed, int many) {
         int[] all = new int[many];
         long s = seed;
         for (int k = 0; k < many; k++) {

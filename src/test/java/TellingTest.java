@@ -116,7 +116,7 @@ public final class TellingTest {
         Due.is("13: count(8)", x.count(8), 1);
         x.hand(0, 0, 0, 0);
         Due.is("13: where(1, 0) before", x.where(1, 0), 8);
-        fill(x, 2, 2, 1, 1, 0, 1, 2, 1, 0, 0, 3, 0, 0);
+        Due.fill(x, 2, 2, 1, 1, 0, 1, 2, 1, 0, 0, 3, 0, 0);
         Due.is("13: read(2), two whole ones and three items", x.read(2), 2);
         Due.is("13: count(4), behind the one told", x.count(4), 3);
         Due.is("13: where(0, 0)", x.where(0, 0), 8);
@@ -134,22 +134,15 @@ public final class TellingTest {
     /** It ends at the first that may not be, though a later one might. */
     private static void promise13Ends() {
         SharedPockets x = new SharedPockets();
-        fill(x, 1, 1, 1, 0, 0, 0, 24, 0, 0, 0, 2, 0, 0, 0);
+        Due.fill(x, 1, 1, 1, 0, 0, 0, 24, 0, 0, 0, 2, 0, 0, 0);
         Due.is("13: read(1), the second is wrong", x.read(1), 1);
         Due.is("13: count(4)", x.count(4), 1);
-        fill(x, 1, 0, 1, 0, 0, 2);
+        Due.fill(x, 1, 0, 1, 0, 0, 2);
         Due.is("13: read(1), the first is wrong", x.read(1), 0);
         x.sheet(3, 1, 60);
         Due.is("13: read(3), sixty noughts", x.read(3), 15);
         Due.is("13: read(3), as there is room for HANDS", x.read(3), 4);
         Due.is("13: count(4) full", x.count(4), 20);
         Due.is("13: read(3) full", x.read(3), 0);
-    }
-
-    private static void fill(SharedPockets x, int s, int form, int... items) {
-        x.sheet(s, form, items.length);
-        for (int i = 0; i < items.length; i++) {
-            x.put(s, form, i, items[i]);
-        }
     }
 }
