@@ -27,6 +27,7 @@ public final class DigestTest {
         x.back(0);
         x.forget();
         alike("undone", x);
+        everyHourAnother();
         SharedPockets asked = Due.with("52f", "h0");
         asked.count(0);
         Due.is("38: digest() as the first question", Due.with("52f", "h0").digest(), asked.digest());
@@ -40,6 +41,28 @@ public final class DigestTest {
         Due.is("38: digest() of " + why, x.digest(), test.folded(x));
         Due.is("38: count(8) of " + why, x.count(8), finding);
         Due.is("38: digest() again of " + why, x.digest(), test.folded(x));
+    }
+
+    /** What is folded of an HOUR, a bound or a SEED is another for the numbers beside it. */
+    private static void everyHourAnother() {
+        SharedPockets x = Due.with("50f;51f;10o", "o0;o.;o2", "0p11 0p00 1t00 2p00 3t00 4p00 5t00 6p00 7t00 8p00 9t00 10p00 11t00 12p00 13t00 14p00 13t02");
+        x.felt(6, 0, 1);
+        another("where(4, 0), where(5, 0)", x.where(4, 0), x.where(5, 0));
+        another("where(5, 0), where(6, 0)", x.where(5, 0), x.where(6, 0));
+        another("has(8, 0), has(9, 0)", x.has(8, 0), x.has(9, 0));
+        another("has(9, 0), has(10, 0)", x.has(9, 0), x.has(10, 0));
+        another("lend(0, 0, 3, 4), lend(0, 0, 3, 5)", x.lend(0, 0, 3, 4, -1), x.lend(0, 0, 3, 5, -1));
+        another("jumps(5, 1, 8, 1), jumps(5, 1, 9, 1)", x.jumps(5, 1, 8, 1), x.jumps(5, 1, 9, 1));
+        another("jumps(5, 1, 9, 1), jumps(5, 1, 10, 1)", x.jumps(5, 1, 9, 1), x.jumps(5, 1, 10, 1));
+        another("sort(9), sort(10)", x.sort(9, -1), x.sort(10, -1));
+        another("when(0, 0), all hours", x.when(0, 0), 0xFFFFFF);
+        another("day(7, 12, 0), day(7, 13, 0)", x.day(7, 12, 0), x.day(7, 13, 0));
+        another("day(7, 12, NONE), day(7, 13, NONE)", x.day(7, 12, -1), x.day(7, 13, -1));
+        alike("every hour another", x);
+    }
+
+    private static void another(String calls, long one, long two) {
+        Due.is("38: like answers to " + calls, one == two ? 1 : 0, 0);
     }
 
     /** 8 noughts, NONE twice, 15 noughts, NONE, 0, NONE, 0: worked out from the document alone. */

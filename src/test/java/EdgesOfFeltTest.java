@@ -172,6 +172,12 @@ public final class EdgesOfFeltTest {
         Due.is("feel(1, 0), 21, 22, 23: one and two, two and one", x.feel(1, 0), 21);
         x.felt(21, 0, 1);
         Due.is("feel(1, 0), 22, 23: one and one", x.feel(1, 0), 22);
+        SharedPockets all = Due.with("10o;11o;12o;13o;14o;15o;16o;17o", NOBODY_HONEST, "0p00 2p11 4p22 6p33 8p44 10p55 12p66 14p77");
+        for (int t = 0; t < 8; t++) {
+            // in from HOUR 2 t on: twelve HOURS later half of all have taken it out, or the last HOUR is the nearest to half
+            Due.is("feel(7, " + t + ") of eight", all.feel(7, t), Math.min(2 * t + 11, 23));
+            Due.is("feel(" + t + ", " + t + ") of eight", all.feel(t, t), Math.min(2 * t + 11, 23));
+        }
     }
 
     private static void jumpsBounds() {
@@ -207,6 +213,11 @@ public final class EdgesOfFeltTest {
         SharedPockets within = Due.with("50f", "o.", "5p00 5t00");
         jumps("in and out within an HOUR", within, 16, 12, 1, 1);
         jumps("LOST", Due.with("57f", "o."), 16, 12, 1, 1);
+        SharedPockets all = Due.with("10f;10f;10f;10f;10f;10f;10f;10f", "o.", "0p00 1p01 2p02 3p03 4p04 5p05 6p06 7p07");
+        for (int t = 0; t < 8; t++) {
+            Due.is("jumps(8, " + t + ", 12, 0) of eight", all.jumps(8, t, 12, 0), 1);
+            Due.is("jumps(8, " + t + ", 12, 1) of eight", all.jumps(8, t, 12, 1), 1 << 13 - t);
+        }
     }
 
     private static void jumpsSixteenths() {

@@ -116,10 +116,12 @@ public final class EdgesOfHoursTest {
             Due.is("where(2, 0), one COUSIN, by ROOM " + w[0], one.where(2, 0), w[1]);
             Due.is("where(2, 1), one COUSIN, by ROOM " + w[0], one.where(2, 1), w[2]);
         }
-        SharedPockets later = Due.with("50o;60o", "o.;h.", "0p00 1t10 1p01 2t01");
+        SharedPockets later = Due.with("50o;60o;10o", "o.;h.", "0p00 1t10 1p01 2t01 4p02 5t02");
         later.room(10);
         Due.is("where(2, 0), no room", later.where(2, 0), 1);
-        Due.is("where(3, 0), room, but it was not the HOUR ahead", later.where(3, 0), 1);
+        for (int h = 3; h < 24; h++) {
+            Due.is("where(" + h + ", 0), room, but it was not the HOUR ahead", later.where(h, 0), 1);
+        }
     }
 
     /** In from any HOUR on it is LOST in the third: in HOUR 2 at first, and never if it comes in behind HOUR 21. */
@@ -141,6 +143,10 @@ public final class EdgesOfHoursTest {
         SharedPockets sent = Due.with("50s", "o.", "0p00 1p00 2p00");
         sent.aunt(0b11);
         Due.is("where(2, 0), in just then, though the AUNT sent it home", sent.where(2, 0), 9);
+        SharedPockets anew = Due.with("50s", "o.", "0p00 1t00 22p00");
+        Due.is("where(23, 0), in at the end of the day", anew.where(23, 0), 8);
+        anew.room(30);
+        Due.is("where(0, 0), which is not ahead of its beginning", anew.where(0, 0), 8);
         SharedPockets put = Due.with("50s", "o.;h.", "0p00 1t10");
         Due.is("where(2, 0), put back, not in the HOUR ahead", put.where(2, 0), 8);
         Due.is("where(4, 0), three HOURS since", put.where(4, 0), 9);

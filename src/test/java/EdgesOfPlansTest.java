@@ -139,6 +139,12 @@ public final class EdgesOfPlansTest {
         SharedPockets last = Due.with("90o;90o;90o;90o;90o;90o;90o;90o", "o.", "4p06 4p07");
         last.room(9);
         Due.is("hangs(4), the last two", last.hangs(4), 0xC0);
+        for (int one = 0; one < 8; one++) {
+            for (int two = 0; two < 8; two++) {
+                SharedPockets x = Due.with("10o;13o", "o.;o.;o.;o.;o.;o.;o.;o.", "0p31 1t" + one + "1 1t" + two + "1");
+                Due.is("hangs(1), COUSINS " + one + " and " + two, x.hangs(1), one == two ? 0 : 2);
+            }
+        }
     }
 
     /** The THING goes to who TAKES it first: COUSIN 1 as told, COUSIN 2 if its HAND is one of the first five. */

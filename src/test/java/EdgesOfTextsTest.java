@@ -11,6 +11,7 @@ public final class EdgesOfTextsTest {
         Edge.says(1, "No THINGS, nobody; all SHEETS are LOST.", EdgesOfTextsTest::newObject);
         Edge.says(1, "(1 to 72; 20 at first)", EdgesOfTextsTest::newRoom);
         Edge.says(1, "if this is one of the AUNT's HOURS (none at first)", EdgesOfTextsTest::newAunt);
+        Edge.says(1, "An object is used for at most 512 calls after it has been made", EdgesOfTextsTest::lastCall);
         Edge.says(2, "A byte (0 to 255) comes behind a text: how many. BAD; FULL.", EdgesOfTextsTest::typedBytes);
         Edge.says(2, "THINGS are a text of up to 31 bytes (text 0)", EdgesOfTextsTest::thirtyOneBytes);
         Edge.says(2, "COUSINS are a text of up to 23 bytes (text 1)", EdgesOfTextsTest::twentyThreeBytes);
@@ -55,6 +56,14 @@ public final class EdgesOfTextsTest {
         SharedPockets x = Due.with("50o", "o.", "0p00");
         for (int h = 0; h < 24; h++) {
             Due.is("where(" + h + ", 0)", x.where(h, 0), 8);
+        }
+    }
+
+    private static void lastCall() {
+        SharedPockets x = Due.with("50o", "o.", "0p00");
+        for (int call = 7; call <= 512; call++) {
+            int got = call % 3 == 0 ? x.load(0) : call % 3 == 1 ? x.room(20) / 4 : x.count(2) + 2;
+            Due.is("call " + call, got, 5);
         }
     }
 

@@ -8,6 +8,7 @@ public final class FeltTest {
         promise26();
         promise26EveryFelt();
         promise26WholeHours();
+        promise26Soup();
         promise26And28Wrong();
         promise27();
         promise28();
@@ -16,6 +17,7 @@ public final class FeltTest {
         promise29Wrong();
         promise30();
         promise30Hands();
+        promise30WholeHours();
         promise30Wrong();
         Due.end();
     }
@@ -117,6 +119,18 @@ public final class FeltTest {
         z.forget();
         z.felt(23, 0, 1);
         Due.is("26: when(1, 0), none", z.when(1, 0), 0);
+    }
+
+    /** Soup that was in THE POCKET ahead of the one HAND more is LOST as told, whatever else is taken. */
+    private static void promise26Soup() {
+        SharedPockets x = Due.with("50s;40o", "o.;o.", "0p00 0p01");
+        x.felt(1, 0, 1);
+        x.felt(2, 0, 0);
+        Due.is("26: when(1, 1), the soup goes in hour 2", x.when(1, 1), ALL_HOURS);
+        Due.is("26: when(1, 0), it is taken in hour 2, or spilled", x.when(1, 0), ALL_HOURS & ~0b11);
+        x.forget();
+        x.felt(2, 0, 1);
+        Due.is("26: when(1, 1), it does not stay", x.when(1, 1), 0);
     }
 
     private static void promise28Edges() {
@@ -268,6 +282,29 @@ public final class FeltTest {
                 Due.is("30: count(5) is as it was", x.count(5), works);
             }
         }
+    }
+
+    /** A DAY has HOLES, soup and the AUNT as any other: its HANDS, told one by one, come to the same. */
+    private static void promise30WholeHours() {
+        for (int seed = 0; seed < 40; seed++) {
+            SharedPockets x = soupHoleAndAunt();
+            SharedPockets y = soupHoleAndAunt();
+            int[] lots = upperBits(seed, 60);
+            for (int h = 0; h < 20; h++) {
+                y.hand(h, lots[3 * h] % 2, lots[3 * h + 1] % 3, lots[3 * h + 2] % 2);
+                for (int t = 0; t < 3; t++) {
+                    Due.is("30: day(" + seed + ", " + h + ", " + t + "), whole hours", x.day(seed, h, t), y.where(h, t));
+                }
+                Due.is("30: day(" + seed + ", " + h + ", NONE), whole hours", x.day(seed, h, -1), y.count(5));
+            }
+        }
+    }
+
+    private static SharedPockets soupHoleAndAunt() {
+        SharedPockets x = Due.with("50s;20o;31s", "o.;o.");
+        x.hole(9, 2);
+        x.aunt(1 << 3 | 1 << 6);
+        return x;
     }
 
     static int[] upperBits(int seed, int many) {

@@ -8,11 +8,14 @@ public final class PlansTest {
         promise21Full();
         promise21WholeHours();
         promise21Anew();
+        promise21Soup();
+        promise21OneBehindAnother();
         promise21Wrong();
         promise22();
         promise22Five();
         promise22WholeHour();
         promise22EveryOrder();
+        promise22Soup();
         promise23();
         promise23Told();
         promise23Edges();
@@ -149,6 +152,48 @@ public final class PlansTest {
         Due.is("23: sort(0, NONE), another text", y.sort(0, -1), 1);
     }
 
+    /** Soup that was in THE POCKET ahead of the HANDS more was so for them too. */
+    private static void promise21Soup() {
+        SharedPockets x = Due.with("50s;10o;90o", "o.;o.", "0p00 3t10");
+        x.room(6);
+        // were it not in the pocket from hour 0 on, cousin 1 would have it as told, whatever other HAND came in
+        lend(x, "1 0 1 3", 1, 64 + 8, -1);
+        lend(x, "1 0 2 3", 1, 64 + 8, -1);
+        lend(x, "1 0 3 3", -1, -1, -1);
+    }
+
+    /** An answer does not hang on what was asked ahead of it. */
+    private static void promise21OneBehindAnother() {
+        int[] hours = {0, 1, 22, 23};
+        int[] things = {0, 1, 7};
+        int[][] asked = new int[96][];
+        long[] alone = new long[asked.length];
+        for (int k = 0; k < asked.length; k++) {
+            asked[k] = new int[] {k / 48, things[k / 16 % 3], hours[k / 4 % 4], hours[k % 4]};
+            alone[k] = lendOf(wholeDay(), asked[k]);
+        }
+        for (int k = 0; k < asked.length; k++) {
+            for (int other = 0; other < asked.length; other++) {
+                SharedPockets x = wholeDay();
+                lendOf(x, asked[other]);
+                Due.is("21: lend " + k + " behind lend " + other, lendOf(x, asked[k]), alone[k]);
+            }
+        }
+    }
+
+    private static SharedPockets wholeDay() {
+        return Due.with("50o;61o;10o;10o;10o;10o;10o;40o", "o.;o.", "1p00 2p11 3t10 4p07 5t17 21p10 22t01 23p17");
+    }
+
+    /** All three answers as one number. */
+    private static long lendOf(SharedPockets x, int[] a) {
+        long row = 0;
+        for (int i = -1; i < 2; i++) {
+            row = 1000 * row + 1 + x.lend(a[0], a[1], a[2], a[3], i);
+        }
+        return row;
+    }
+
     /** Twenty HANDS that are told leave LEND as it is. */
     private static void promise21Full() {
         SharedPockets x = Due.with("50o", "o.;o.");
@@ -233,6 +278,14 @@ public final class PlansTest {
         SharedPockets y = Due.with("50o;67o", "o.;o.;o.");
         Due.hands(y, "0p00 0p71 0t71");
         Due.is("22: hangs(0), what is lost stays so", y.hangs(0), 0);
+    }
+
+    /** Soup that was in THE POCKET in both HOURS ahead is LOST by each order by which it stays there. */
+    private static void promise22Soup() {
+        SharedPockets x = Due.with("50s;40o", "o.;o.;o.", "0p00 2p01 2t01");
+        Due.is("22: hangs(2), the soup is LOST by both", x.hangs(2), 0b10);
+        SharedPockets y = Due.with("50s;40o", "o.;o.;o.", "0p01 0p00 2t11 2t21");
+        Due.is("22: hangs(2), the soup is LOST by both", y.hangs(2), 0b10);
     }
 
     private static void sort(SharedPockets x, int bound, int many, int one, int two) {
