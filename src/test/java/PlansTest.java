@@ -10,6 +10,7 @@ public final class PlansTest {
         promise21Anew();
         promise21Soup();
         promise21OneBehindAnother();
+        promise21AskedFirst();
         promise21Wrong();
         promise22();
         promise22Five();
@@ -178,6 +179,16 @@ public final class PlansTest {
                 lendOf(x, asked[other]);
                 Due.is("21: lend " + k + " behind lend " + other, lendOf(x, asked[k]), alone[k]);
             }
+        }
+    }
+
+    /** Each question as the very first one: who has no THING yet gets it by two HANDS, if it is not too late. */
+    private static void promise21AskedFirst() {
+        for (int k = 0; k < 9 * 24 * 24; k++) {
+            int[] a = {k / 1728, k / 576 % 3, k / 24 % 24, k % 24};
+            long got = lendOf(Due.with("10o;11o;12o", "o.;o.;o."), a);
+            long needed = a[3] < a[2] ? 0 : 3_000_000 + (9 * a[1] + 1) * 1000 + 64 + 8 * a[0] + a[1] + 1;
+            Due.is("21: lend(" + a[0] + ", " + a[1] + ", " + a[2] + ", " + a[3] + ", ..), asked first", got, a[0] == a[1] ? 1_000_000 : needed);
         }
     }
 
