@@ -6,7 +6,8 @@ import java.util.Comparator;
 
 /** Every call with every choice of numbers at and beside the bounds: none throws, each answers as the Oracle does. */
 public final class AnyNumbersTest {
-    private static final int[] FEW = {Integer.MIN_VALUE, -1, 0, 1, 2, 3, 8, 24, Integer.MAX_VALUE};
+    /** For calls that take five numbers. */
+    private static final int[] FEW = {Integer.MIN_VALUE, -2, -1, 0, 1, 2, 3, 4, 23, 24, Integer.MAX_VALUE};
     private static final int[] MANY = {Integer.MIN_VALUE, -2, -1, 0, 1, 2, 3, 4, 7, 8, 9, 10, 12, 13, 16, 17, 23, 24, 60, 61, 72, 73, 255, 256,
         0xFFFFFF, 0x1000000, Integer.MAX_VALUE};
     /** An object is used for at most 512 calls, those ahead of these among them. */
@@ -31,7 +32,7 @@ public final class AnyNumbersTest {
 
     private void everyChoice(Method method, Method oracle) throws ReflectiveOperationException {
         int many = method.getParameterCount();
-        int[] numbers = many > 3 ? FEW : MANY;
+        int[] numbers = many > 4 ? FEW : MANY;
         int choices = 1;
         for (int k = 0; k < many; k++) {
             choices *= numbers.length;
