@@ -6,7 +6,9 @@ import java.nio.file.Path;
 import java.util.ArrayList;
 import java.util.Collections;
 import java.util.List;
+import java.util.Map;
 import java.util.Set;
+import java.util.TreeMap;
 import java.util.TreeSet;
 import java.util.regex.Matcher;
 import java.util.regex.Pattern;
@@ -30,6 +32,7 @@ public final class LanguageTest {
         String source = Files.readString(Path.of(args.length > 0 ? args[0] : ".", "src/main/java/SharedPockets.java"));
         words(source);
         methods(source);
+        depth(withoutComments(source));
         Due.end();
     }
 
@@ -70,6 +73,9 @@ public final class LanguageTest {
                 otherNames.add(m.getName());
             }
             Due.is(c + " has few fields", c.getDeclaredFields().length <= 20 ? 1 : 0, 1);
+            for (Field f : c.getDeclaredFields()) {
+                Due.is(f + " is no state of a class", Modifier.isStatic(f.getModifiers()) && !Modifier.isFinal(f.getModifiers()) ? 1 : 0, 0);
+            }
         }
         Due.is("at most twelve classes", inner + 1 <= 12 ? 1 : 0, 1);
         otherNames.retainAll(publicNames);
@@ -117,5 +123,39 @@ public final class LanguageTest {
             Due.is(m.group(2) + " is short", end - i < 60 ? 1 : 0, 1);
             Due.is(m.group(2) + " has few parameters", m.group(3).split(",").length <= 7 ? 1 : 0, 1);
         }
+    }
+
+    /** Calls that are no recursion go at most eight deep (rule 11); methods are told apart by their names. */
+    private static void depth(String source) {
+        Pattern head = Pattern.compile("(?m)^( {4}| {8})(?:(?:public|private|static|final) )*[A-Za-z\\[\\]]+ ([a-zA-Z]+)\\([^)]*\\) \\{$");
+        Map<String, String> bodies = new TreeMap<>();
+        Matcher m = head.matcher(source);
+        while (m.find()) {
+            int end = source.indexOf("\n" + m.group(1) + "}", m.end());
+            bodies.merge(m.group(2), source.substring(m.end(), end), String::concat);
+        }
+        for (String name : bodies.keySet()) {
+            List<String> deepest = deepest(name, bodies, new ArrayList<>());
+            Due.is("at most eight deep: " + deepest, deepest.size() <= 8 ? 1 : 0, 1);
+        }
+        Due.is("the deepest is found", deepest("digest", bodies, new ArrayList<>()).size() > 5 ? 1 : 0, 1);
+    }
+
+    private static List<String> deepest(String name, Map<String, String> bodies, List<String> open) {
+        List<String> begun = new ArrayList<>(open);
+        begun.add(name);
+        List<String> best = begun;
+        Matcher call = Pattern.compile("\\b([a-zA-Z]+)\\(").matcher(bodies.get(name));
+        Set<String> called = new TreeSet<>();
+        while (call.find()) {
+            called.add(call.group(1));
+        }
+        for (String next : called) {
+            if (bodies.containsKey(next) && !begun.contains(next)) {
+                List<String> one = deepest(next, bodies, begun);
+                best = one.size() > best.size() ? one : best;
+            }
+        }
+        return best;
     }
 }
